@@ -469,17 +469,17 @@ public final class EpochSifter {
 
         /** The payload's number of n bits, the highest first, that begins at a bit. */
         private int number(int bit, int n) {
-            int number = 0;
+            int value = 0;
             for (int i = bit; i < bit + n; i++) {
                 int octet = stream.at(start + (i >> 3));
-                number = number << 1 | octet >> (7 - (i & 7)) & 1;
+                value = value << 1 | octet >> (7 - (i & 7)) & 1;
             }
-            return number;
+            return value;
         }
 
-        private static int signed(int number, int n) {
+        private static int signed(int value, int n) {
             int unused = 32 - n;
-            return number << unused >> unused;
+            return value << unused >> unused;
         }
     }
 
