@@ -46,7 +46,7 @@ public final class LikenessTest {
                 Due.same(name + ", flush", sifter.flush(), model.flush());
             }
         }
-        Due.same("run " + number + ", state", stateOf(sifter), model.state());
+        Due.same("run " + number + ", state", Asked.state(sifter), model.state());
         fullest = Math.max(fullest, sifter.epoch(2));
         epochs += sifter.count(4);
         lost += sifter.count(5);
@@ -124,27 +124,5 @@ public final class LikenessTest {
             }
         }
         return observing.payload();
-    }
-
-    private static String stateOf(EpochSifter sifter) {
-        StringBuilder text = new StringBuilder();
-        for (int what = 0; what < 10; what++) {
-            text.append(sifter.count(what)).append(what < 9 ? " " : " epoch");
-        }
-        for (int what = 0; what < 4; what++) {
-            text.append(' ').append(sifter.epoch(what));
-        }
-        for (int k = 0; k < 42; k++) {
-            text.append(' ').append(sifter.cell(k)).append(' ').append(sifter.range(k));
-            text.append(' ').append(sifter.strength(k));
-        }
-        text.append(" mean ").append(sifter.mean()).append(' ').append(sifter.fix());
-        for (int which = 0; which < 4; which++) {
-            text.append(' ').append(sifter.raw(which));
-        }
-        for (int which = 0; which < 3; which++) {
-            text.append(' ').append(sifter.place(which));
-        }
-        return text.toString();
     }
 }

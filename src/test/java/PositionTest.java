@@ -1,10 +1,5 @@
 /** Promises 9, 10 and 11. */
 public final class PositionTest {
-    private static String numbers(EpochSifter sifter) {
-        return sifter.fix() + " " + sifter.raw(0) + " " + sifter.raw(1) + " " + sifter.raw(2) + " "
-                + sifter.raw(3);
-    }
-
     public static void main(String[] args) {
         latestOne();
         everyFix();
@@ -18,12 +13,12 @@ public final class PositionTest {
     private static void latestOne() {
         EpochSifter sifter = new EpochSifter();
         Frames.feed(sifter, Frames.position(1, 2, 3, 4, 5));
-        Due.same("first", numbers(sifter), "2 1 3 4 5");
+        Due.same("first", Asked.position(sifter), "2 1 3 4 5");
         Frames.feed(sifter, Frames.position(11, 4, 13, 14, 15));
-        Due.same("second", numbers(sifter), "4 11 13 14 15");
+        Due.same("second", Asked.position(sifter), "4 11 13 14 15");
         sifter.flush();
         Frames.feed(sifter, Observing.of(1, 2).frame());
-        Due.same("stays", numbers(sifter), "4 11 13 14 15");
+        Due.same("stays", Asked.position(sifter), "4 11 13 14 15");
     }
 
     private static void everyFix() {
@@ -32,7 +27,7 @@ public final class PositionTest {
             Frames.feed(sifter, Frames.position(1, 3, 2, 3, 4));
             Frames.feed(sifter, Frames.position(5, fix, 6, 7, 8));
             boolean right = fix >= 2 && fix <= 4;
-            Due.same("fix " + fix, numbers(sifter), right ? fix + " 5 6 7 8" : "3 1 2 3 4");
+            Due.same("fix " + fix, Asked.position(sifter), right ? fix + " 5 6 7 8" : "3 1 2 3 4");
         }
     }
 
@@ -42,7 +37,7 @@ public final class PositionTest {
         for (int[] sort : sorts) {
             EpochSifter sifter = new EpochSifter();
             Due.same("taken", Frames.feed(sifter, Frames.shortFrame(sort[0], sort[1], payload)), 1);
-            Due.same("kind " + sort[0] + ", number " + sort[1], numbers(sifter), "0 0 0 0 0");
+            Due.same("kind " + sort[0] + ", number " + sort[1], Asked.position(sifter), "0 0 0 0 0");
             Due.same("counts", Frames.counts(sifter), "0 1 0 1 0 0 0 0 0 -1");
         }
     }
@@ -52,7 +47,7 @@ public final class PositionTest {
         for (int length = 0; length <= 90; length++) {
             EpochSifter sifter = new EpochSifter();
             Frames.feed(sifter, Frames.shortFrame(1, 7, Frames.head(payload, length)));
-            Due.same("length " + length, numbers(sifter), length >= 17 ? "2 1 3 4 5" : "0 0 0 0 0");
+            Due.same("length " + length, Asked.position(sifter), length >= 17 ? "2 1 3 4 5" : "0 0 0 0 0");
             Due.same("positions", sifter.count(7), length >= 17 ? 1 : 0);
             Due.same("foreign", sifter.count(3), length >= 17 ? 0 : 1);
         }
@@ -65,7 +60,7 @@ public final class PositionTest {
             for (int b : numbers) {
                 EpochSifter sifter = new EpochSifter();
                 Frames.feed(sifter, Frames.position(a, 3, b, a, b));
-                Due.same("numbers", numbers(sifter), "3 " + a + " " + b + " " + a + " " + b);
+                Due.same("numbers", Asked.position(sifter), "3 " + a + " " + b + " " + a + " " + b);
                 Due.same("place(0)", sifter.place(0), b * 0.0000001);
                 Due.same("place(1)", sifter.place(1), a * 0.0000001);
                 Due.same("place(2)", sifter.place(2), b * 0.001);
