@@ -27,7 +27,7 @@ public final class EpochSifter {
     public EpochSifter() {
         counters = new int[COUNTERS];
         stream = new Stream();
-        observation = new Observation(stream);
+        observation = new Observation();
         gathered = new Epoch();
         latest = new Epoch();
         position = new Position();
@@ -191,7 +191,7 @@ public final class EpochSifter {
     private void takeLong(int from, int size) {
         counters[LONG_FRAMES]++;
         int length = size - Stream.LONG_HEAD - Stream.LONG_TAIL;
-        if (!observation.read(from + Stream.LONG_HEAD, length)) {
+        if (!observation.read(stream, from + Stream.LONG_HEAD, length)) {
             counters[FOREIGN_FRAMES]++;
             return;
         }
@@ -346,7 +346,7 @@ public final class EpochSifter {
         }
     }
 
-    /** A long frame's payload, read in its place in the stream. */
+    /** A long frame's payload, taken apart. */
     private static final class Observation {
         static final int FIRST_MESSAGE = 1000;
         static final int LAST_MESSAGE = 1003;
@@ -369,8 +369,7 @@ public final class EpochSifter {
         static final int NO_WHOLE = 255;
         static final int NO_FINE = -16384;
 
-        final Stream stream;
-        int start;
+        final int[] payload;
         int system;
         int station;
         int time;
@@ -382,17 +381,13 @@ public final class EpochSifter {
         int finesAt;
         int strengthsAt;
 
-        Observation(Stream stream) {
-            this.stream = stream;
+        Observation() {
+            payload = new int[Stream.LENGTH_MOST];
         }
 
         /** Reads all but the cells; false if the payload is no observation. */
-        boolean read(int payloadStart, int length) {
-            start = payloadStart;
-            int bitsThere = 8 * length;
-            if (bitsThere < CELLS_AT) {
-                return false;
-            }
+        boolean read(Stream stream, int start, int length) {
+            fill(stream, start, length);
             int message = number(0, 12);
             if (message < FIRST_MESSAGE || message > LAST_MESSAGE) {
                 return false;
@@ -403,17 +398,20 @@ public final class EpochSifter {
             more = number(MORE_AT, 1) == 1;
             satelliteMask = number(SATELLITES_AT, SATELLITES);
             signalMask = number(SIGNALS_AT, SIGNALS);
-            return layOut(bitsThere);
+            return layOut(8 * length);
+        }
+
+        /** Behind the end of the payload are zeros: nothing of an earlier one stays there. */
+        private void fill(Stream stream, int start, int length) {
+            for (int i = 0; i < payload.length; i++) {
+                payload[i] = i < length ? stream.at(start + i) : 0;
+            }
         }
 
         /** Finds where each row of numbers begins; false if they do not fit or are too many. */
         private boolean layOut(int bitsThere) {
             int satellites = Integer.bitCount(satelliteMask);
             wholesAt = CELLS_AT + satellites * Integer.bitCount(signalMask);
-            // Bits behind the payload's end are not cells, and must not be counted as such.
-            if (wholesAt > bitsThere) {
-                return false;
-            }
             int cells = 0;
             for (int bit = CELLS_AT; bit < wholesAt; bit++) {
                 cells += number(bit, 1);
@@ -471,10 +469,15 @@ public final class EpochSifter {
         private int number(int bit, int n) {
             int value = 0;
             for (int i = bit; i < bit + n; i++) {
-                int octet = stream.at(start + (i >> 3));
-                value = value << 1 | octet >> (7 - (i & 7)) & 1;
+                value = value << 1 | bitAt(i);
             }
             return value;
+        }
+
+        private int bitAt(int i) {
+            int place = i >> 3;
+            int octet = place >= 0 && place < payload.length ? payload[place] : 0;
+            return octet >> (7 - (i & 7)) & 1;
         }
 
         private static int signed(int value, int n) {
